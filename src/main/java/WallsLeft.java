@@ -318,14 +318,15 @@ public final class WallsLeft {
         if (get(now.street.alive, builder) == 0) {
             return 0;
         }
-        return paper.chanceFor(builder, plot);
+        paper.build(builder, plot);
+        return paper.stayed;
     }
 
     public int years(int builder, int plot) {
-        if (get(now.street.alive, builder) != 1 || !within(plot, 0, PLOTS - 1)) {
+        if (!now.street.has(builder) || !within(plot, 0, PLOTS - 1)) {
             return NONE;
         }
-        return paper.build(builder, plot);
+        return get(now.street.alive, builder) == 0 ? NONE : paper.build(builder, plot);
     }
 
     public long lives(int builder, int k) {
@@ -581,9 +582,6 @@ public final class WallsLeft {
         int builders;
 
         Street() {
-            for (int i = 0; i < plots.length; i++) {
-                plots[i] = NONE;
-            }
             put(terms, SLIPS, USUAL_SLIPS);
         }
 
@@ -1471,8 +1469,8 @@ public final class WallsLeft {
         private final long[] second = new long[LONGEST_BRIDGE];
         private final long[] slipped = new long[MOST_SLIPS];
         private final int[][] laid = new int[BUILDERS][SEEN_YEARS + 1];
-        private long stayed;
         private long bridged;
+        long stayed;
 
         Paper(Borough borough, Court court) {
             this.borough = borough;
@@ -1480,25 +1478,22 @@ public final class WallsLeft {
             this.court = court;
         }
 
-        long chanceFor(int builder, int plot) {
-            return build(builder, plot) == NONE ? 0 : stayed;
-        }
-
         /** In how many years the plot has all its courses; stayed is the parts in which he lives so long. */
         int build(int builder, int plot) {
             stayed = WHOLE;
             int courses = get(street.courses, plot);
             court.hear(street, builder, plot);
-            for (int year = 0; year < PAPER_YEARS && courses < FULL; year++) {
+            for (int year = 0; year <= PAPER_YEARS; year++) {
+                if (courses >= FULL) {
+                    return year;
+                }
                 stayed = staying(stayed, court.thousandths(borough.lawInForce()));
                 courses += court.coursesAYear();
-                if (courses >= FULL) {
-                    return year + 1;
-                }
                 court.raised(courses);
                 court.later(1);
             }
-            return courses >= FULL ? 0 : NONE;
+            stayed = 0;
+            return NONE;
         }
 
         long survive(int builder, int years) {
@@ -1701,8 +1696,10 @@ public final class WallsLeft {
             for (int builder = 0; builder < BUILDERS; builder++) {
                 for (int i = 0; i < many; i++) {
                     boolean may = court.mayStart(street, builder, get(plots, i));
-                    boolean ends = may && paper.build(builder, get(plots, i)) != NONE;
-                    putLong(rowOf(chances, builder), i, ends ? paper.stayed : may ? 0 : NONE);
+                    if (may) {
+                        paper.build(builder, get(plots, i));
+                    }
+                    putLong(rowOf(chances, builder), i, may ? paper.stayed : NONE);
                 }
             }
         }

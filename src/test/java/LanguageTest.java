@@ -271,12 +271,16 @@ public final class LanguageTest {
         WallsLeft x = new WallsLeft();
         busy(x);
         long id = Thread.currentThread().getId();
-        long none = threads.getThreadAllocatedBytes(id);
-        long asking = threads.getThreadAllocatedBytes(id) - none;
-        long ahead = threads.getThreadAllocatedBytes(id);
-        busy(x);
-        long made = threads.getThreadAllocatedBytes(id) - ahead - asking;
-        due.so(made <= 0, "calls make nothing: " + made + " bytes");
+        long least = Long.MAX_VALUE;
+        // The machine may make something of its own in one of the rounds, not in each.
+        for (int i = 0; i < 3; i++) {
+            long none = threads.getThreadAllocatedBytes(id);
+            long asking = threads.getThreadAllocatedBytes(id) - none;
+            long ahead = threads.getThreadAllocatedBytes(id);
+            busy(x);
+            least = Math.min(least, threads.getThreadAllocatedBytes(id) - ahead - asking);
+        }
+        due.so(least <= 0, "calls make nothing: " + least + " bytes");
     }
 
     /** Every call, with all that it can go through. */

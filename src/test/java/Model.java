@@ -526,7 +526,8 @@ final class Model {
         return told(was);
     }
 
-    int feed(int... five) {
+    int feed(int a, int b, int c, int d, int e) {
+        int[] five = {a, b, c, d, e};
         if (tape.length + 20 > 400) {
             return -1;
         }

@@ -124,7 +124,9 @@ public final class PromisesTest {
             due.is(-1, x.of(0, what), "what " + what);
         }
         for (int one : new int[] {-1, 2, 6, LEAST, MOST}) {
-            due.is(-1, x.of(one, 0), "builder " + one);
+            for (int what = 0; what < 6; what++) {
+                due.is(-1, x.of(one, what), "builder " + one);
+            }
         }
     }
 
@@ -146,7 +148,9 @@ public final class PromisesTest {
             due.is(-1, x.at(0, what), "what " + what);
         }
         for (int plot : new int[] {-1, 16, LEAST, MOST}) {
-            due.is(-1, x.at(plot, 0), "plot " + plot);
+            for (int what = 0; what < 4; what++) {
+                due.is(-1, x.at(plot, what), "plot " + plot);
+            }
         }
     }
 
@@ -232,7 +236,7 @@ public final class PromisesTest {
         due.promise(9, "row");
         WallsLeft x = new WallsLeft();
         due.is(-6, x.row(), "an empty tape");
-        x.feed(0x1E010F01, 0x1E041E00, 0x64012802, 0x1E000000, 0);
+        x.feed(0x1E010F01, 0x1E041E00, 0x64012802, 0x1E010000, 0);
         x.end(13);
         due.is(2, x.row(), "how many came");
         due.is(0, x.count(7), "the tape is empty then");
@@ -285,6 +289,9 @@ public final class PromisesTest {
         due.is(31, x.of(0, 0), "age");
         due.is(0, x.count(7), "the tape is empty");
         due.is(1, Due.orders(x, "die 1"), "die");
+        x.builder(35, 1);
+        due.is(1, Due.orders(x, "die 2"), "one who is free leaves nothing, and dies");
+        due.is(0, x.of(2, 2), "dead");
         due.is(1, x.at(3, 1), "left");
         due.is(-3, Due.orders(x, "pass; die 1"), "one can't be");
         due.is(31, x.of(0, 0), "nothing was run");
@@ -294,7 +301,7 @@ public final class PromisesTest {
         due.is(-6, x.orders(), "an empty tape");
         due.is(0, x.fault(), "its fault");
         due.is(0, Due.orders(x, "pass if 1 = 2"), "none was run");
-        due.is(7, x.count(6), "what was run can be undone");
+        due.is(1, x.count(6), "what was run behind a builder came can be undone");
         due.is(20, Due.orders(x, "pass times 20"), "twenty times");
         due.is(16, x.count(6), "sixteen are kept");
         due.is(-3, Due.orders(x, "pass times 20; die 7"), "nothing is run");
@@ -486,6 +493,10 @@ public final class PromisesTest {
 
     private static void undoAndOtherCalls() {
         due.promise(20, "undo and other calls");
+        WallsLeft bare = new WallsLeft();
+        bare.pass();
+        due.is(0, bare.builder(30, 1), "the first builder");
+        due.is(-3, bare.undo(), "nothing ahead of him can be undone");
         WallsLeft x = Due.with(30);
         x.image(0);
         for (int i = 0; i < 4; i++) {
@@ -700,6 +711,14 @@ public final class PromisesTest {
         due.is(WHOLE, x.bridge(1, 0, 1), "one is dead");
         x.die(0);
         due.is(0, x.bridge(0, 1, 1), "both are dead");
+        // Parts that are left over in all three rows are gone by the next bridge.
+        WallsLeft y = Due.with(30, 40);
+        Due.force(y, "dies 500 if year < 2; dies 0 if year > 1; lays 1 if year < 2; lays 0 if year > 1");
+        due.is(0, y.bridge(0, 1, 40), "not so many");
+        Due.force(y, "dies 0; lays 1");
+        due.is(WHOLE, y.bridge(0, 1, 5), "no parts of an earlier bridge");
+        Due.force(y, "dies 0; lays builder + 1");
+        due.is(WHOLE, y.bridge(0, 1, 7), "no parts of an earlier bridge");
         due.is(-1, x.bridge(2, 2, 1), "one alone");
         due.is(-1, x.bridge(0, 3, 1), "no such builder");
         due.is(-1, x.bridge(-1, 0, 1), "no such builder");
@@ -726,6 +745,13 @@ public final class PromisesTest {
         due.is(11, x.stair(1), "its first");
         x.lay(2);
         due.is(4, x.stair(0), "two courses more are no stair");
+        WallsLeft low = Due.with(30, 30);
+        wall(low, 0, 1, 1);
+        due.is(2, low.stair(0), "from the first plot on");
+        due.is(0, low.stair(1), "its first");
+        wall(low, 1, 0, 8);
+        due.is(1, low.stair(0), "from 8 down to 1 is none");
+        due.is(0, low.stair(1), "its first");
         due.is(-1, x.stair(2), "what 2");
         due.is(-1, x.stair(-1), "what -1");
     }
@@ -755,6 +781,9 @@ public final class PromisesTest {
         due.is(4, x.rooms(1), "0 to 2, 4, 6 to 10, 12 on");
         due.is(3, x.rooms(2), "0 to 2, 4 to 10, 12 on");
         due.is(2, x.rooms(6), "0 to 2, 4 on");
+        WallsLeft early = Due.with(30);
+        wall(early, 0, 1, 1);
+        due.is(2, early.rooms(1), "0 alone, 2 on");
         WallsLeft full = Due.with(30);
         for (int plot = 0; plot < 16; plot++) {
             wall(full, 0, plot, 9);
@@ -783,6 +812,9 @@ public final class PromisesTest {
         due.is(12, x.seat(), "by law");
         Due.force(x, "worth 100 + plot");
         due.is(3, x.seat(), "99 all, the lowest");
+        wall(x, 3, 0, 0);
+        x.die(3);
+        due.is(0, x.seat(), "the first of the street");
     }
 
     private static void seenAndForget() {
@@ -1044,6 +1076,18 @@ public final class PromisesTest {
         x.seen(0, 0);
         x.back(1);
         due.is(0, x.count(4), "an image can be kept anew");
+        WallsLeft y = Due.with(30);
+        y.image(0);
+        Due.force(y, "dies 1; lays 2 if age > 20");
+        y.seen(1, 2);
+        y.image(1);
+        y.back(0);
+        Due.force(y, "lays 3; dies 4");
+        y.seen(1, 3);
+        y.back(1);
+        due.is(1, y.compare(0, 0), "the law of that number as it was then");
+        due.is(2, y.of(0, 5), "the law in force as it was then");
+        due.is(1, y.canBe(), "what was seen then");
     }
 
     private static void count() {

@@ -1,10 +1,16 @@
+import java.lang.reflect.Method;
+import java.lang.reflect.Modifier;
 import java.util.Arrays;
+import java.util.HashMap;
+import java.util.Map;
 
 /** Runs of drawn calls, each answer held against the Model's. Arguments: the first seed and how many runs. */
 public final class RandomRunsTest {
+    private static final Map<String, Method> WALLS = methodsOf(WallsLeft.class);
+    private static final Map<String, Method> MODEL = methodsOf(Model.class);
+
     private static int wrong = 0;
     private static int calls = 0;
-    private static int good = 0;
 
     private final Scribe scribe;
     private final WallsLeft walls = new WallsLeft();
@@ -57,10 +63,14 @@ public final class RandomRunsTest {
             call("stopped");
             call("count", 6);
         } else if (kind < 16) {
-            rowOfBytes();
-        } else if (kind < 17) {
-            call("image", scribe.draw(2));
+            if (scribe.once(2)) {
+                rowOfBytes();
+            } else if (scribe.once(3)) {
+                call("builder", 16 + scribe.draw(84), 1 + scribe.draw(3));
+            }
         } else if (kind < 18) {
+            call("image", scribe.draw(2));
+        } else if (kind < 19) {
             call("back", scribe.draw(2));
         } else if (kind < 20) {
             call("force", scribe.draw(8) - 1);
@@ -225,107 +235,37 @@ public final class RandomRunsTest {
         if (made > 512 || off) {
             return -1;
         }
-        long got = onWalls(name, args);
-        long due = onModel(name, args);
+        long got = ask(walls, WALLS.get(name), args);
+        long due = ask(model, MODEL.get(name), args);
         log.append(name).append(Arrays.toString(args)).append(" = ").append(got).append('\n');
         if (got != due) {
             wrong++;
             off = true;
             System.out.println("seed " + seed + " call " + made + ":\n" + log + "due is " + due);
         }
-        good += got >= 0 ? 1 : 0;
         return got;
     }
 
-    private long onWalls(String name, int[] a) {
-        switch (name) {
-            case "builder": return walls.builder(a[0], a[1]);
-            case "of": return walls.of(a[0], a[1]);
-            case "at": return walls.at(a[0], a[1]);
-            case "can": return walls.can(a[0], a[1]);
-            case "terms": return walls.terms(a[0], a[1]);
-            case "feed": return walls.feed(a[0], a[1], a[2], a[3], a[4]);
-            case "end": return walls.end(a[0]);
-            case "row": return walls.row();
-            case "bubbles": return walls.bubbles();
-            case "law": return walls.law();
-            case "orders": return walls.orders();
-            case "fault": return walls.fault();
-            case "stopped": return walls.stopped();
-            case "force": return walls.force(a[0]);
-            case "begin": return walls.begin(a[0], a[1]);
-            case "lay": return walls.lay(a[0]);
-            case "die": return walls.die(a[0]);
-            case "pass": return walls.pass();
-            case "undo": return walls.undo();
-            case "chance": return walls.chance(a[0], a[1]);
-            case "years": return walls.years(a[0], a[1]);
-            case "lives": return walls.lives(a[0], a[1]);
-            case "plan": return walls.plan(a[0], a[1]);
-            case "bridge": return walls.bridge(a[0], a[1], a[2]);
-            case "stair": return walls.stair(a[0]);
-            case "stretch": return walls.stretch(a[0], a[1]);
-            case "rooms": return walls.rooms(a[0]);
-            case "seat": return walls.seat();
-            case "seen": return walls.seen(a[0], a[1]);
-            case "forget": return walls.forget();
-            case "canBe": return walls.canBe();
-            case "look": return walls.look(a[0]);
-            case "few": return walls.few(a[0], a[1]);
-            case "compare": return walls.compare(a[0], a[1]);
-            case "centuries": return walls.centuries(a[0], a[1]);
-            case "drawn": return walls.drawn(a[0], a[1]);
-            case "image": return walls.image(a[0]);
-            case "back": return walls.back(a[0]);
-            case "count": return walls.count(a[0]);
-            case "status": return walls.status();
-            default: throw new IllegalArgumentException(name);
+    private static Map<String, Method> methodsOf(Class<?> type) {
+        Map<String, Method> methods = new HashMap<>();
+        for (Method m : type.getDeclaredMethods()) {
+            if (!Modifier.isPrivate(m.getModifiers()) && !Modifier.isStatic(m.getModifiers())) {
+                methods.put(m.getName(), m);
+            }
         }
+        return methods;
     }
 
-    private long onModel(String name, int[] a) {
-        switch (name) {
-            case "builder": return model.builder(a[0], a[1]);
-            case "of": return model.of(a[0], a[1]);
-            case "at": return model.at(a[0], a[1]);
-            case "can": return model.can(a[0], a[1]);
-            case "terms": return model.terms(a[0], a[1]);
-            case "feed": return model.feed(a[0], a[1], a[2], a[3], a[4]);
-            case "end": return model.end(a[0]);
-            case "row": return model.row();
-            case "bubbles": return model.bubbles();
-            case "law": return model.law();
-            case "orders": return model.orders();
-            case "fault": return model.fault();
-            case "stopped": return model.stopped();
-            case "force": return model.force(a[0]);
-            case "begin": return model.begin(a[0], a[1]);
-            case "lay": return model.lay(a[0]);
-            case "die": return model.die(a[0]);
-            case "pass": return model.pass();
-            case "undo": return model.undo();
-            case "chance": return model.chance(a[0], a[1]);
-            case "years": return model.years(a[0], a[1]);
-            case "lives": return model.lives(a[0], a[1]);
-            case "plan": return model.plan(a[0], a[1]);
-            case "bridge": return model.bridge(a[0], a[1], a[2]);
-            case "stair": return model.stair(a[0]);
-            case "stretch": return model.stretch(a[0], a[1]);
-            case "rooms": return model.rooms(a[0]);
-            case "seat": return model.seat();
-            case "seen": return model.seen(a[0], a[1]);
-            case "forget": return model.forget();
-            case "canBe": return model.canBe();
-            case "look": return model.look(a[0]);
-            case "few": return model.few(a[0], a[1]);
-            case "compare": return model.compare(a[0], a[1]);
-            case "centuries": return model.centuries(a[0], a[1]);
-            case "drawn": return model.drawn(a[0], a[1]);
-            case "image": return model.image(a[0]);
-            case "back": return model.back(a[0]);
-            case "count": return model.count(a[0]);
-            case "status": return model.status();
-            default: throw new IllegalArgumentException(name);
+    /** As many of the numbers as the method takes. */
+    private static long ask(Object one, Method method, int[] numbers) {
+        Object[] args = new Object[method.getParameterCount()];
+        for (int i = 0; i < args.length; i++) {
+            args[i] = numbers[i];
+        }
+        try {
+            return ((Number) method.invoke(one, args)).longValue();
+        } catch (ReflectiveOperationException e) {
+            throw new IllegalStateException(method.getName(), e);
         }
     }
 }

@@ -57,6 +57,11 @@ public final class TextsTest {
         lawFault("dies 5if 7<age", -1);
         lawFault("diesage", 0);
         lawFault("dies 1 2", 7);
+        lawFault("dies agez", 5);
+        lawFault("dies aage", 5);
+        lawFault("dies 1z", 6);
+        lawFault("dies 19", -1);
+        lawFault("dies 90", -1);
         lawFault("Dies 5", 0);
         lawFault("dies\t5", 4);
         lawFault("dies \u00e9", 5);
@@ -267,7 +272,12 @@ public final class TextsTest {
         due.is(1, Due.orders(x, "pass if courses 5 = 5 and courses 9 = 2 and courses 3 = 0"), "courses");
         x.builder(30, 1);
         x.builder(31, 1);
-        due.is(1, Due.orders(x, "begin 2 at 0 if free = 2; begin 3 at 1 if free = 2"), "free, less the dead");
+        Due.orders(x, "begin 2 at 0; lay 2; die 2");
+        Due.orders(x, "begin 3 at 15; lay 3 times 2");
+        due.is(1, Due.orders(x, "pass if courses 0 = 1 and courses 15 = 2 and courses 14 = 0"), "courses of the first and the last");
+        x.builder(30, 1);
+        x.builder(31, 1);
+        due.is(1, Due.orders(x, "begin 4 at 3 if free = 2; begin 5 at 1 if free = 2"), "free, less the dead");
     }
 
     private static void runningOrders() {
