@@ -47,7 +47,6 @@ public final class WallsLeft {
     private static final int DRAW_MODULO = 1_000_003;
 
     private static final int TAPE = 400;
-    private static final int FED = 5;
     private static final int FED_BYTES = 20;
     private static final int BYTE = 255;
     private static final int LAWS = 6;

@@ -1,9 +1,9 @@
-/** Promises 1 to 41, each by ordinary inputs, the edges that the document names, and wrong inputs. */
+/** Promises 1 to 41, each by ordinary inputs, edges and wrong inputs; EdgesTest has a test for each sentence of an edge. */
 public final class PromisesTest {
     private static final Due due = new Due("PromisesTest");
-    private static final long WHOLE = 1_000_000_000_000L;
-    private static final int LEAST = Integer.MIN_VALUE;
-    private static final int MOST = Integer.MAX_VALUE;
+    private static final long WHOLE = Due.WHOLE;
+    private static final int LEAST = Due.LEAST;
+    private static final int MOST = Due.MOST;
 
     public static void main(String[] args) {
         newObject();
@@ -46,14 +46,6 @@ public final class PromisesTest {
         count();
         status();
         due.end();
-    }
-
-    /** A builder lays so many courses on the plot, and is on it if they are fewer than nine. */
-    private static void wall(WallsLeft x, int builder, int plot, int courses) {
-        x.begin(builder, plot);
-        for (int i = 0; i < courses; i++) {
-            x.lay(builder);
-        }
     }
 
     private static void newObject() {
@@ -133,7 +125,7 @@ public final class PromisesTest {
     private static void at() {
         due.promise(4, "at");
         WallsLeft x = Due.with(30, 40);
-        wall(x, 1, 15, 3);
+        Due.wall(x, 1, 15, 3);
         due.is(3, x.at(15, 0), "courses");
         due.is(0, x.at(15, 1), "not left");
         due.is(1, x.at(15, 2), "who is on it");
@@ -164,7 +156,7 @@ public final class PromisesTest {
         x.die(0);
         due.is(0, x.can(0, 4), "he is dead");
         due.is(0, x.can(1, 3), "it is left");
-        wall(x, 1, 5, 9);
+        Due.wall(x, 1, 5, 9);
         due.is(0, x.can(2, 5), "it is done");
         due.is(1, x.can(1, 6), "who ended a wall is free");
         Due.force(x, "bars if plot = 6 and age = 40 and courses = 0 and left = 0");
@@ -405,7 +397,7 @@ public final class PromisesTest {
         WallsLeft x = Due.with(30, 40, 50);
         due.is(-2, x.die(3), "no such builder");
         due.is(-2, x.die(-1), "no such builder");
-        wall(x, 0, 4, 5);
+        Due.wall(x, 0, 4, 5);
         due.is(5, x.die(0), "what is left");
         due.is(1, x.at(4, 1), "left");
         due.is(5, x.at(4, 0), "its courses stay");
@@ -456,7 +448,7 @@ public final class PromisesTest {
         due.promise(20, "undo");
         WallsLeft x = Due.with(30, 40);
         due.is(-3, x.undo(), "there is none");
-        wall(x, 0, 4, 8);
+        Due.wall(x, 0, 4, 8);
         x.begin(1, 5);
         x.lay(0);
         x.die(1);
@@ -536,11 +528,11 @@ public final class PromisesTest {
         WallsLeft x = Due.with(30, 40, 50);
         Due.force(x, "dies 500; lays 3");
         due.is(WHOLE / 8, x.chance(0, 0), "three years by halves");
-        wall(x, 0, 7, 4);
+        Due.wall(x, 0, 7, 4);
         due.is(WHOLE / 4, x.chance(0, 7), "from the courses that stand");
         due.is(WHOLE / 4, x.chance(1, 7), "whatever stands there");
         due.is(WHOLE / 8, x.chance(0, 1), "whatever he is on");
-        wall(x, 1, 8, 9);
+        Due.wall(x, 1, 8, 9);
         due.is(WHOLE, x.chance(2, 8), "at once, if it has nine");
         x.die(0);
         due.is(0, x.chance(0, 8), "of the dead, nine or not");
@@ -588,7 +580,7 @@ public final class PromisesTest {
         due.is(9, x.years(0, 0), "pace 1");
         due.is(5, x.years(1, 0), "pace 2");
         due.is(3, x.years(2, 0), "pace 3");
-        wall(x, 0, 4, 7);
+        Due.wall(x, 0, 4, 7);
         due.is(1, x.years(2, 4), "two courses are wanting");
         x.lay(0);
         x.lay(0);
@@ -610,7 +602,7 @@ public final class PromisesTest {
         WallsLeft x = Due.with(30, 40);
         due.is(WHOLE, x.lives(0, 0), "no year");
         due.is(WHOLE * 970 / 1000 * 969 / 1000, x.lives(0, 2), "30, 31 thousandths");
-        wall(x, 0, 3, 2);
+        Due.wall(x, 0, 3, 2);
         Due.force(x, "dies 100 * courses; lays 9; dies 0 if plot < 0");
         due.is(WHOLE * 512 / 1000, x.lives(0, 3), "on his plot as it is");
         due.is(WHOLE, x.lives(1, 99), "on none");
@@ -731,25 +723,25 @@ public final class PromisesTest {
         WallsLeft x = Due.with(30, 30, 30, 30, 30, 30);
         due.is(1, x.stair(0), "a plot alone");
         due.is(0, x.stair(1), "the first");
-        wall(x, 0, 13, 2);
-        wall(x, 1, 14, 3);
-        wall(x, 2, 15, 4);
+        Due.wall(x, 0, 13, 2);
+        Due.wall(x, 1, 14, 3);
+        Due.wall(x, 2, 15, 4);
         due.is(3, x.stair(0), "up to the end of the street");
         due.is(13, x.stair(1), "its first");
-        wall(x, 3, 5, 1);
-        wall(x, 4, 6, 2);
+        Due.wall(x, 3, 5, 1);
+        Due.wall(x, 4, 6, 2);
         due.is(3, x.stair(0), "another one as long");
         due.is(4, x.stair(1), "the first of them");
-        wall(x, 5, 12, 1);
+        Due.wall(x, 5, 12, 1);
         due.is(5, x.stair(0), "longer");
         due.is(11, x.stair(1), "its first");
         x.lay(2);
         due.is(4, x.stair(0), "two courses more are no stair");
         WallsLeft low = Due.with(30, 30);
-        wall(low, 0, 1, 1);
+        Due.wall(low, 0, 1, 1);
         due.is(2, low.stair(0), "from the first plot on");
         due.is(0, low.stair(1), "its first");
-        wall(low, 1, 0, 8);
+        Due.wall(low, 1, 0, 8);
         due.is(1, low.stair(0), "from 8 down to 1 is none");
         due.is(0, low.stair(1), "its first");
         due.is(-1, x.stair(2), "what 2");
@@ -761,12 +753,12 @@ public final class PromisesTest {
         WallsLeft x = Due.with(30, 30, 30);
         due.is(16, x.stretch(1, 0), "the whole street");
         due.is(0, x.stretch(1, 1), "its first");
-        wall(x, 0, 5, 1);
-        wall(x, 1, 11, 5);
+        Due.wall(x, 0, 5, 1);
+        Due.wall(x, 1, 11, 5);
         due.is(5, x.stretch(1, 0), "of two alike");
         due.is(0, x.stretch(1, 1), "the first");
         due.is(11, x.stretch(2, 0), "below 2");
-        wall(x, 2, 3, 9);
+        Due.wall(x, 2, 3, 9);
         due.is(5, x.stretch(1, 0), "between the walls");
         due.is(6, x.stretch(1, 1), "its first");
         due.is(12, x.stretch(9, 0), "nine is not below nine");
@@ -782,11 +774,11 @@ public final class PromisesTest {
         due.is(3, x.rooms(2), "0 to 2, 4 to 10, 12 on");
         due.is(2, x.rooms(6), "0 to 2, 4 on");
         WallsLeft early = Due.with(30);
-        wall(early, 0, 1, 1);
+        Due.wall(early, 0, 1, 1);
         due.is(2, early.rooms(1), "0 alone, 2 on");
         WallsLeft full = Due.with(30);
         for (int plot = 0; plot < 16; plot++) {
-            wall(full, 0, plot, 9);
+            Due.wall(full, 0, plot, 9);
         }
         due.is(0, full.stretch(9, 0), "nothing is below");
         due.is(-1, full.stretch(9, 1), "no first");
@@ -796,11 +788,11 @@ public final class PromisesTest {
     private static void seat() {
         due.promise(29, "seat");
         WallsLeft x = Due.with(30, 30, 30, 30);
-        wall(x, 0, 9, 9);
+        Due.wall(x, 0, 9, 9);
         due.is(-1, x.seat(), "done is not left");
-        wall(x, 0, 7, 2);
-        wall(x, 1, 3, 2);
-        wall(x, 2, 12, 0);
+        Due.wall(x, 0, 7, 2);
+        Due.wall(x, 1, 3, 2);
+        Due.wall(x, 2, 12, 0);
         due.is(-1, x.seat(), "nothing is left");
         x.die(2);
         due.is(12, x.seat(), "worth 0, the only one");
@@ -812,7 +804,7 @@ public final class PromisesTest {
         due.is(12, x.seat(), "by law");
         Due.force(x, "worth 100 + plot");
         due.is(3, x.seat(), "99 all, the lowest");
-        wall(x, 3, 0, 0);
+        Due.wall(x, 3, 0, 0);
         x.die(3);
         due.is(0, x.seat(), "the first of the street");
     }
@@ -1036,7 +1028,7 @@ public final class PromisesTest {
         x.terms(2, 5);
         Due.force(x, "dies 7");
         x.seen(2, 2);
-        wall(x, 0, 4, 3);
+        Due.wall(x, 0, 4, 3);
         x.die(1);
         due.is(0, x.image(1), "kept");
         due.is(5, x.count(6), "what can be undone stays");
@@ -1093,10 +1085,10 @@ public final class PromisesTest {
     private static void count() {
         due.promise(40, "count");
         WallsLeft x = Due.with(30, 40, 50);
-        wall(x, 0, 15, 9);
-        wall(x, 0, 0, 9);
-        wall(x, 0, 1, 4);
-        wall(x, 1, 14, 0);
+        Due.wall(x, 0, 15, 9);
+        Due.wall(x, 0, 0, 9);
+        Due.wall(x, 0, 1, 4);
+        Due.wall(x, 1, 14, 0);
         x.die(0);
         x.die(1);
         due.is(3, x.count(0), "builders");
