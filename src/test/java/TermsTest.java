@@ -717,6 +717,15 @@ public final class TermsTest {
         due.is(5, x.seat(), "0 each: the lowest");
         Due.force(x, "worth plot; worth 50 - plot if builder = 0 - 1 and age = 0 - 1 and pace = 0 - 1");
         due.is(5, x.seat(), "asked of nobody");
+        x.force(-1);
+        x.die(3);
+        due.is(2, x.seat(), "seven courses");
+        WallsLeft high = Due.with(30, 30, 30);
+        Due.wall(high, 0, 1, 2);
+        Due.wall(high, 1, 13, 4);
+        Due.wall(high, 2, 14, 3);
+        Due.orders(high, "die 0; die 1; die 2");
+        due.is(13, high.seat(), "worth most, neither the lowest nor the highest");
     }
 
     private static void canBe() {

@@ -275,6 +275,14 @@ public final class TextsTest {
         due.lawFault("bars if " + "(".repeat(5) + "1=[[[[1]]]]" + ")".repeat(5), 18);
         due.lawFault("bars if " + "(".repeat(7) + "1=1 or [[1]]=1" + ")".repeat(7), 23);
         due.lawFault("bars if " + "(".repeat(7) + "1=1 and not ((1=1))" + ")".repeat(7), 28);
+        due.lawFault("dies 1" + "+[1".repeat(8) + "]".repeat(8), -1);
+        due.lawFault("dies 1" + "+[1".repeat(9) + "]".repeat(9), 6 + 3 * 8 + 1);
+        due.lawFault("dies 1" + "*[1".repeat(8) + "]".repeat(8), -1);
+        due.lawFault("dies 1" + "*[1".repeat(9) + "]".repeat(9), 6 + 3 * 8 + 1);
+        due.lawFault("bars if 1=1" + " or (1=1".repeat(8) + ")".repeat(8), -1);
+        due.lawFault("bars if 1=1" + " or (1=1".repeat(9) + ")".repeat(9), 11 + 8 * 8 + 4);
+        due.lawFault("bars if 1=1" + " and (1=1".repeat(9) + ")".repeat(9), 11 + 9 * 8 + 5);
+        due.lawFault("bars if " + "not (".repeat(9) + "1=1" + ")".repeat(9), 8 + 5 * 8 + 4);
         // Side by side there may be more.
         due.lawFault("dies [1]" + "+[1]".repeat(30), -1);
         due.lawFault("bars if (1=1)" + " or (1=1)".repeat(12), -1);
