@@ -118,7 +118,7 @@ public final class WallsLeft {
     private static final String SUM_SIGNS = "+ -";
     private static final String TERM_SIGNS = "* / %";
     private static final String COMPARISONS = "< > =";
-    private static final long BROKEN = Long.MAX_VALUE;
+    private static final long BROKEN = 1_000_000_001L;
 
     private final Borough now = new Borough();
     private final Borough[] images = new Borough[IMAGES];
@@ -577,12 +577,8 @@ public final class WallsLeft {
         final int[] paces = new int[BUILDERS];
         final int[] alive = new int[BUILDERS];
         final int[] plots = new int[BUILDERS];
-        final int[] terms = new int[TERMS];
+        final int[] terms = {0, USUAL_SLIPS, 0};
         int builders;
-
-        Street() {
-            put(terms, SLIPS, USUAL_SLIPS);
-        }
 
         void copyFrom(Street other) {
             copyRow(other.courses, courses);

@@ -155,14 +155,56 @@ public final class LanguageTest {
             long from = line(tree);
             long to = unit.getLineMap().getLineNumber(trees.getSourcePositions().getEndPosition(unit, tree));
             due.so(to - from < 60, "a short method: " + tree.getName() + " in line " + from);
+            due.so(!Set.of("equals", "hashCode", "toString").contains(tree.getName().toString()), "no " + tree.getName() + " of its own");
             due.so(tree.getParameters().size() <= 7, "seven parameters at most: " + tree.getName());
             calls.computeIfAbsent(trees.getElement(getCurrentPath()), e -> new LinkedHashSet<>());
             return super.visitMethod(tree, none);
         }
 
+        private void notOfLibrary() {
+            Element e = trees.getElement(getCurrentPath());
+            boolean field = e != null && e.getKind() == ElementKind.FIELD && !e.getSimpleName().contentEquals("length");
+            due.so(!field || e.getEnclosingElement().toString().startsWith("WallsLeft"), "a field of the library: " + e);
+        }
+
+        @Override
+        public Void visitMemberSelect(MemberSelectTree tree, Void none) {
+            notOfLibrary();
+            return super.visitMemberSelect(tree, none);
+        }
+
+        @Override
+        public Void visitLiteral(LiteralTree tree, Void none) {
+            if (tree.getValue() instanceof String text) {
+                due.so(text.chars().allMatch(c -> c >= 1 && c <= 127), "plain signs in line " + line(tree));
+            }
+            return super.visitLiteral(tree, none);
+        }
+
+        @Override
+        public Void visitIdentifier(IdentifierTree tree, Void none) {
+            notOfLibrary();
+            constantRow(trees.getElement(getCurrentPath()), tree);
+            return super.visitIdentifier(tree, none);
+        }
+
+        /** A static array is only ever handed to get(), which reads it. */
+        private void constantRow(Element e, Tree tree) {
+            boolean row = e != null && e.getKind() == ElementKind.FIELD && e.asType().getKind() == TypeKind.ARRAY
+                && e.getModifiers().contains(javax.lang.model.element.Modifier.STATIC);
+            if (row) {
+                Tree parent = getCurrentPath().getParentPath().getLeaf();
+                boolean read = parent instanceof MethodInvocationTree call && call.getMethodSelect().toString().equals("get");
+                due.so(read, e + " is only read, in line " + line(tree));
+            }
+        }
+
         @Override
         public Void visitMethodInvocation(MethodInvocationTree tree, Void none) {
             Element called = trees.getElement(getCurrentPath());
+            Element within = here(Tree.Kind.METHOD);
+            boolean first = called.getKind() == ElementKind.CONSTRUCTOR;
+            due.so(first || within == null || within.getKind() != ElementKind.CONSTRUCTOR, "a constructor calls nothing, in line " + line(tree));
             String owner = called.getEnclosingElement().getSimpleName().toString();
             boolean own = called.getEnclosingElement().toString().startsWith("WallsLeft");
             due.so(own || LIBRARY.contains(owner + "." + called.getSimpleName()), "library: " + owner + "." + called.getSimpleName());
